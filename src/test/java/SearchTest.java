@@ -1,3 +1,5 @@
+import java.math.BigInteger;
+
 /** Promises 21 and 22: train and best, by hand and against plain searches through all there is. */
 public final class SearchTest {
     private static final Greenwheels X = new Greenwheels();
@@ -6,6 +8,7 @@ public final class SearchTest {
         trainRefuses();
         trainByHand();
         trainAgainstAll();
+        trainOfAllWheels();
         bestRefuses();
         bestByHand();
         bestAgainstAll();
@@ -48,6 +51,38 @@ public final class SearchTest {
                 Due.is("21: " + p + "/" + q, train(p, q), slowTrain(p, q));
             }
         }
+    }
+
+    /** Each rate that four wheels can come to has its train, and with two pairs it is the first one of the fewest teeth. */
+    private static void trainOfAllWheels() {
+        int[] fewest = new int[4096 * 4096];
+        int[] wheels = new int[4096 * 4096];
+        for (int k = 0; k < 51 * 51 * 51 * 51; k++) {
+            int a = 10 + k / (51 * 51 * 51);
+            int b = 10 + k / (51 * 51) % 51;
+            int c = 10 + k / 51 % 51;
+            int d = 10 + k % 51;
+            int common = BigInteger.valueOf(a * c).gcd(BigInteger.valueOf(b * d)).intValue();
+            int rate = a * c / common * 4096 + b * d / common;
+            if (fewest[rate] == 0 || a + b + c + d < fewest[rate]) {
+                fewest[rate] = a + b + c + d;
+                wheels[rate] = ((a * 64 + b) * 64 + c) * 64 + d;
+            }
+        }
+        int wrong = 0;
+        for (int rate = 0; rate < fewest.length; rate++) {
+            int p = rate / 4096;
+            int q = rate % 4096;
+            int pairs = fewest[rate] == 0 ? -1 : X.train(p, q, 0);
+            if (fewest[rate] != 0 && pairs == -1) {
+                wrong++;
+            }
+            if (pairs == 2) {
+                int found = ((X.train(p, q, 1) * 64 + X.train(p, q, 2)) * 64 + X.train(p, q, 3)) * 64 + X.train(p, q, 4);
+                wrong += found == wheels[rate] ? 0 : 1;
+            }
+        }
+        Due.is("21: rates of four wheels with a wrong train", wrong, 0);
     }
 
     private static String train(int p, int q) {
