@@ -245,6 +245,15 @@ final class PieceClaimBounds {
     }
 
     private static void ofClaim() {
+        Sentence is = Sentence.of("Promise 16:", "1 1 if it is WITHDRAWN, otherwise 0, 2 1 if it STANDS, otherwise 0");
+        Greenwheels two = Scene.NEW.then(y -> y.claim(0)).then(y -> y.claim(1)).made();
+        is.is("both stand", isWithdrawnStands(two), "0 1, 0 1");
+        two.withdraw(1, true);
+        is.is("the second one is withdrawn", isWithdrawnStands(two), "0 1, 1 0");
+        two.withdraw(0, true);
+        is.is("both are withdrawn", isWithdrawnStands(two), "1 0, 1 0");
+        two.withdraw(1, false);
+        is.is("the first one is withdrawn", isWithdrawnStands(two), "1 0, 0 0");
         Sentence s = Sentence.of("Promise 16:", "3 how many CLAIMS that STAND would not, if it was WITHDRAWN"
                 + " (it, too, if it STANDS)");
         Greenwheels x = new Greenwheels();
@@ -264,5 +273,9 @@ final class PieceClaimBounds {
         Sentence what = Sentence.of("Promise 16:", "Throws IllegalArgumentException if what is not 0 to 3");
         what.range("ofClaim(0, what)", Scene.SOME, 0, 3, Due.ARGUMENT, (y, w) -> y.ofClaim(0, w));
         what.range("ofClaim(11, what)", Scene.FULL, 0, 3, Due.ARGUMENT, (y, w) -> y.ofClaim(11, w));
+    }
+
+    private static String isWithdrawnStands(Greenwheels x) {
+        return x.ofClaim(0, 1) + " " + x.ofClaim(0, 2) + ", " + x.ofClaim(1, 1) + " " + x.ofClaim(1, 2);
     }
 }

@@ -92,8 +92,8 @@ final class WholeBounds {
                 + " then lower number, then pointer() of it; WHEEL by WHEEL ofWheel() of 0 to 3, passed() upper, then lower"
                 + " number; period(); LUMP by LUMP ofLump() of 0 to 3; CLAIM by CLAIM ofClaim() of 0 to 3; 1 if isSound(),"
                 + " otherwise 0.");
-        numbers.is("with no wheels and claims", numbersOfDigest(Scene.NEW.made()).size(), 9 + 7 * 7 + 1 + 6 * 4 + 1);
-        numbers.is("with all", numbersOfDigest(Scene.FULL.made()).size(), 9 + 7 * 7 + 12 * 6 + 1 + 6 * 4 + 12 * 4 + 1);
+        numbers.is("with no wheels and claims", WholeTest.numbersOf(Scene.NEW.made()).size(), 9 + 7 * 7 + 1 + 6 * 4 + 1);
+        numbers.is("with all", WholeTest.numbersOf(Scene.FULL.made()).size(), 9 + 7 * 7 + 12 * 6 + 1 + 6 * 4 + 12 * 4 + 1);
         for (Scene scene : SCENES) {
             numbers.is(scene.name, scene.made().digest(), WholeTest.digestOf(scene.made()));
         }
@@ -124,40 +124,10 @@ final class WholeBounds {
     /** The checksum with no bound on its size. */
     private static BigInteger endlessDigest(Greenwheels x) {
         BigInteger d = BigInteger.valueOf(5087);
-        for (long v : numbersOfDigest(x)) {
+        for (long v : WholeTest.numbersOf(x)) {
             d = d.multiply(BigInteger.valueOf(31)).add(BigInteger.valueOf(v));
         }
         return d;
-    }
-
-    private static List<Long> numbersOfDigest(Greenwheels x) {
-        List<Long> numbers = new ArrayList<>();
-        for (int what = 0; what <= 8; what++) {
-            numbers.add((long) x.house(what));
-        }
-        for (int axle = 0; axle <= 6; axle++) {
-            for (int what = 0; what <= 2; what++) {
-                numbers.add(x.ofAxle(axle, what, true));
-                numbers.add(x.ofAxle(axle, what, false));
-            }
-            numbers.add((long) x.pointer(axle));
-        }
-        for (int wheel = 0; wheel < x.house(0); wheel++) {
-            for (int what = 0; what <= 3; what++) {
-                numbers.add((long) x.ofWheel(wheel, what));
-            }
-            numbers.add(x.passed(wheel, true));
-            numbers.add(x.passed(wheel, false));
-        }
-        numbers.add(x.period());
-        for (int k = 0; k < 6 * 4; k++) {
-            numbers.add((long) x.ofLump(k / 4, k % 4));
-        }
-        for (int k = 0; k < x.house(4) * 4; k++) {
-            numbers.add((long) x.ofClaim(k / 4, k % 4));
-        }
-        numbers.add(x.isSound() ? 1L : 0L);
-        return numbers;
     }
 
     /** One call after the other that is refused; each one, and all of them together, leave all answers as they were. */

@@ -1,3 +1,6 @@
+import java.util.ArrayList;
+import java.util.List;
+
 /** Promises 23 to 25: isSound, knock, digest. */
 public final class WholeTest {
     public static void main(String[] args) {
@@ -88,34 +91,40 @@ public final class WholeTest {
     /** As promise 25 has it, from the answers of the object. */
     static long digestOf(Greenwheels x) {
         long d = 5087;
+        for (long v : numbersOf(x)) {
+            d = d * 31 + v;
+        }
+        return d;
+    }
+
+    /** The numbers of which promise 25 makes the checksum, one behind the other. */
+    static List<Long> numbersOf(Greenwheels x) {
+        List<Long> numbers = new ArrayList<>();
         for (int what = 0; what <= 8; what++) {
-            d = d * 31 + x.house(what);
+            numbers.add((long) x.house(what));
         }
         for (int axle = 0; axle <= 6; axle++) {
             for (int what = 0; what <= 2; what++) {
-                d = d * 31 + x.ofAxle(axle, what, true);
-                d = d * 31 + x.ofAxle(axle, what, false);
+                numbers.add(x.ofAxle(axle, what, true));
+                numbers.add(x.ofAxle(axle, what, false));
             }
-            d = d * 31 + x.pointer(axle);
+            numbers.add((long) x.pointer(axle));
         }
         for (int wheel = 0; wheel < x.house(0); wheel++) {
             for (int what = 0; what <= 3; what++) {
-                d = d * 31 + x.ofWheel(wheel, what);
+                numbers.add((long) x.ofWheel(wheel, what));
             }
-            d = d * 31 + x.passed(wheel, true);
-            d = d * 31 + x.passed(wheel, false);
+            numbers.add(x.passed(wheel, true));
+            numbers.add(x.passed(wheel, false));
         }
-        d = d * 31 + x.period();
-        for (int lump = 0; lump <= 5; lump++) {
-            for (int what = 0; what <= 3; what++) {
-                d = d * 31 + x.ofLump(lump, what);
-            }
+        numbers.add(x.period());
+        for (int k = 0; k < 6 * 4; k++) {
+            numbers.add((long) x.ofLump(k / 4, k % 4));
         }
-        for (int claim = 0; claim < x.house(4); claim++) {
-            for (int what = 0; what <= 3; what++) {
-                d = d * 31 + x.ofClaim(claim, what);
-            }
+        for (int k = 0; k < x.house(4) * 4; k++) {
+            numbers.add((long) x.ofClaim(k / 4, k % 4));
         }
-        return d * 31 + (x.isSound() ? 1 : 0);
+        numbers.add(x.isSound() ? 1L : 0L);
+        return numbers;
     }
 }
