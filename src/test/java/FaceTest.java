@@ -1,35 +1,35 @@
+import java.io.IOException;
 import java.lang.reflect.Constructor;
 import java.lang.reflect.Field;
 import java.lang.reflect.Method;
 import java.lang.reflect.Modifier;
+import java.nio.file.Files;
+import java.nio.file.Path;
+import java.util.ArrayList;
+import java.util.Collections;
+import java.util.List;
 import java.util.Set;
 import java.util.TreeSet;
+import java.util.regex.Matcher;
+import java.util.regex.Pattern;
 
 /** The face of the class is that of the document and nothing else (LANGUAGE.md, rules 1 and 5). */
 public final class FaceTest {
-    private static final String I = "IndexOutOfBoundsException";
-    private static final String A = "IllegalArgumentException";
-    private static final String S = "IllegalStateException";
+    private static final String SIGNATURE = "(\\w+ \\w+\\([^)]*\\)(?: throws [^;`]+)?)";
 
-    private static final String[] DUE = {
-        "int wheel(int,int)" + I + A + S, "boolean mesh(int,int)" + I + A, "boolean part(int,int)" + I,
-        "int turn(int)" + A + S, "int dial(int,int)" + I + A, "int piece(int,int,int,int)" + I + A + S,
-        "int claim(int)" + A + S, "int withdraw(int,boolean)" + I, "long ofAxle(int,int,boolean)" + I + A,
-        "int ofWheel(int,int)" + I + A, "long passed(int,boolean)" + I, "long period()", "int pointer(int)" + I,
-        "int ofLump(int,int)" + I + A, "int ofClaim(int,int)" + I + A, "int house(int)" + A,
-        "String row(int)" + I, "int wouldMesh(int,int)" + I, "int wouldPoint(int,int)" + I + A,
-        "int train(int,int,int)" + A, "int best(int,int,int,boolean)" + A, "boolean isSound()", "int knock()",
-        "long digest()",
-    };
-
-    public static void main(String[] args) {
+    public static void main(String[] args) throws IOException {
+        String doc = Files.readString(Path.of("../shared/DOC.md"));
+        List<String> due = signatures(doc, "(?m)^    public " + SIGNATURE + ";$");
+        Due.is("methods in the document's face", due.size(), 24);
+        Due.is("each has its promise", signatures(doc, "(?m)^`" + SIGNATURE + "`$").toString(), due.toString());
         Class<?> face = Greenwheels.class;
         Due.is("the class", Modifier.toString(face.getModifiers()), "public final");
+        Due.is("no package", face.getPackageName(), "");
         Due.is("constructors", face.getDeclaredConstructors().length, 1);
         Constructor<?> made = face.getDeclaredConstructors()[0];
         Due.is("the constructor", Modifier.isPublic(made.getModifiers()) && made.getParameterCount() == 0, true);
-        Set<String> due = new TreeSet<>(Set.of(DUE));
-        Set<String> told = new TreeSet<>();
+        Due.is("the constructor throws nothing", made.getExceptionTypes().length, 0);
+        List<String> told = new ArrayList<>();
         Set<String> names = new TreeSet<>();
         for (Method method : face.getDeclaredMethods()) {
             if (!Modifier.isPrivate(method.getModifiers())) {
@@ -38,6 +38,8 @@ public final class FaceTest {
                 Due.is(method.getName() + " is", Modifier.toString(method.getModifiers()), "public");
             }
         }
+        Collections.sort(told);
+        Collections.sort(due);
         Due.is("the methods", told.toString(), due.toString());
         privateMembers(face, names);
         for (Class<?> inside : face.getDeclaredClasses()) {
@@ -46,6 +48,16 @@ public final class FaceTest {
             privateMembers(inside, names);
         }
         Due.end();
+    }
+
+    /** As the document writes them, but without the names of parameters. */
+    private static List<String> signatures(String doc, String pattern) {
+        List<String> found = new ArrayList<>();
+        Matcher matcher = Pattern.compile(pattern).matcher(doc);
+        while (matcher.find()) {
+            found.add(matcher.group(1).replaceAll("(int|boolean|long) \\w+(?=[,)])", "$1"));
+        }
+        return found;
     }
 
     private static void privateMembers(Class<?> where, Set<String> faceNames) {
@@ -65,15 +77,17 @@ public final class FaceTest {
     }
 
     private static String signature(Method method) {
-        StringBuilder text = new StringBuilder(method.getReturnType().getSimpleName());
-        text.append(' ').append(method.getName()).append('(');
-        for (Class<?> type : method.getParameterTypes()) {
-            text.append(text.charAt(text.length() - 1) == '(' ? "" : ",").append(type.getSimpleName());
+        String text = method.getReturnType().getSimpleName() + " " + method.getName()
+                + "(" + joined(method.getParameterTypes()) + ")";
+        Class<?>[] thrown = method.getExceptionTypes();
+        return thrown.length == 0 ? text : text + " throws " + joined(thrown);
+    }
+
+    private static String joined(Class<?>[] types) {
+        List<String> names = new ArrayList<>();
+        for (Class<?> type : types) {
+            names.add(type.getSimpleName());
         }
-        text.append(')');
-        for (Class<?> type : method.getExceptionTypes()) {
-            text.append(type.getSimpleName());
-        }
-        return text.toString();
+        return String.join(", ", names);
     }
 }
